@@ -23,6 +23,8 @@ public final class NoonWords {
     private static final int MAX_NUMBER = 999;
     private static final int MAX_DIGITS = 6;
     private static final int TAPE = 400;
+    // Far above what five brackets, with two sums open in each, and a comparison's left side hold at once.
+    private static final int STACK = 32;
     private static final int FEED = 20;
     private static final int TRAYS = 4;
     private static final int MAX_TRAY = 60;
@@ -548,7 +550,6 @@ public final class NoonWords {
         Land() {
             Arrays.fill(roads, NONE);
             Arrays.fill(lags, NONE);
-            Arrays.fill(ratesNow, 100);
             for (int town = 0; town < MAX_TOWNS; town++) {
                 lags[town * MAX_TOWNS + town] = 0;
             }
@@ -556,7 +557,7 @@ public final class NoonWords {
 
         void goOn(int days) {
             now += days;
-            hearRates();
+            Arrays.fill(ratesNow, 0);
         }
 
         int addTown() {
@@ -572,7 +573,7 @@ public final class NoonWords {
             roads[a * MAX_TOWNS + b] = days;
             roads[b * MAX_TOWNS + a] = days;
             measureLags();
-            hearRates();
+            Arrays.fill(ratesNow, 0);
             return was;
         }
 
@@ -618,36 +619,35 @@ public final class NoonWords {
             rateCoin[rates] = coin;
             rateOf[rates] = of;
             rates++;
-            hearRates();
+            Arrays.fill(ratesNow, 0);
             return rates - 1;
-        }
-
-        // Kept, since every WORTH asks for them and they change by few calls.
-        private void hearRates() {
-            for (int town = 0; town < towns; town++) {
-                for (int coin = 1; coin < COINS; coin++) {
-                    ratesNow[town * COINS + coin] = rateHeard(town, coin, now);
-                }
-            }
         }
 
         // Rates stand by days, so the first that is heard, from the last on, is of the latest day.
         int rateHeard(int town, int coin, int day) {
             int best = NONE;
+            int leastLag = NONE;
             for (int k = rates - 1; k >= 0 && coin != 0; k--) {
                 if (best != NONE && rateDay[k] < rateDay[best]) {
                     break;
                 }
-                if (rateCoin[k] == coin && isHeard(rateTown[k], rateDay[k], town, day)
-                        && (best == NONE || lagOf(rateTown[k], town) < lagOf(rateTown[best], town))) {
+                int lag = lags[rateTown[k] * MAX_TOWNS + town];
+                boolean heard = rateCoin[k] == coin && lag != NONE && rateDay[k] + lag <= day;
+                if (heard && (best == NONE || lag < leastLag)) {
                     best = k;
+                    leastLag = lag;
                 }
             }
             return best == NONE ? 100 : rateOf[best];
         }
 
+        // A rate that was asked for is kept, 0 if it wasn't since go, road or rate.
         long worthNow(long n, int coin, int town) {
-            return Math.floorDiv(n * ratesNow[town * COINS + coin], 100L);
+            int place = town * COINS + coin;
+            if (ratesNow[place] == 0) {
+                ratesNow[place] = rateHeard(town, coin, now);
+            }
+            return Math.floorDiv(n * ratesNow[place], 100L);
         }
     }
 
@@ -1189,7 +1189,7 @@ public final class NoonWords {
         final long[] names = new long[LAST_NAME - FIRST_NAME + 1];
         final int[] voidedIn = new int[MAX_NUMBER + 1];
         int walk;
-        final long[] stack = new long[TAPE];
+        final long[] stack = new long[STACK];
         int top;
         boolean divided;
 
@@ -1722,8 +1722,8 @@ public final class NoonWords {
         final long[] amount = new long[DEBTS];
         final int[] week = new int[DEBTS];
         final int[] best = new int[DEBTS];
-        final long[] without = new long[(WEEKS + 1) * MAX_BROKERS];
         final long[] behind = new long[MAX_BROKERS];
+        final boolean[] fits = new boolean[WEEKS + 1 << DEBTS];
         int latest;
 
         Coming(Land land, Brokers brokers, Ledger ledger, Words words) {
@@ -1793,7 +1793,9 @@ public final class NoonWords {
 
         // All plans in the order of their weeks, so that a like one that comes later is no better.
         void findPlan(int ofCoin, int size, int weeks) {
-            foreseeWeeks(ofCoin, weeks);
+            for (int w = 1; w <= weeks; w++) {
+                foreseeWeek(ofCoin, size, w);
+            }
             latest = NONE;
             int bestSum = 0;
             int plans = 1;
@@ -1814,17 +1816,39 @@ public final class NoonWords {
             }
         }
 
-        private void foreseeWeeks(int ofCoin, int weeks) {
-            for (int w = 1; w <= weeks; w++) {
-                for (int broker = 0; broker < brokers.many; broker++) {
-                    without[w * MAX_BROKERS + broker] = brokers.has(broker, ofCoin);
-                }
-                for (int k = 0; k < many; k++) {
-                    if (coin[k] == ofCoin && within(day[k], land.now, land.now + 7 * w)) {
-                        without[w * MAX_BROKERS + whose[k]] += low[k];
-                    }
+        // fits[]: whether all drawers bear it if just a part of the debts is settled behind a week.
+        private void foreseeWeek(int ofCoin, int size, int w) {
+            for (int broker = 0; broker < brokers.many; broker++) {
+                behind[broker] = brokers.has(broker, ofCoin);
+            }
+            for (int k = 0; k < many; k++) {
+                if (coin[k] == ofCoin && within(day[k], land.now, land.now + 7 * w)) {
+                    behind[whose[k]] += low[k];
                 }
             }
+            for (int part = 0; part < 1 << size; part++) {
+                settlePart(part, size, 1);
+                fits[w << DEBTS | part] = nobodyBelow();
+                settlePart(part, size, -1);
+            }
+        }
+
+        private void settlePart(int part, int size, int sign) {
+            for (int k = 0; k < size; k++) {
+                if (holds(part, k)) {
+                    behind[owing[k]] -= sign * amount[k];
+                    behind[owed[k]] += sign * amount[k];
+                }
+            }
+        }
+
+        private boolean nobodyBelow() {
+            for (int broker = 0; broker < brokers.many; broker++) {
+                if (behind[broker] < 0) {
+                    return false;
+                }
+            }
+            return true;
         }
 
         private int latestWeek(int size) {
@@ -1855,17 +1879,12 @@ public final class NoonWords {
 
         private boolean isRight(int size, int weeks) {
             for (int w = 1; w <= weeks; w++) {
-                System.arraycopy(without, w * MAX_BROKERS, behind, 0, brokers.many);
+                int part = 0;
                 for (int k = 0; k < size; k++) {
-                    if (week[k] <= w) {
-                        behind[owing[k]] -= amount[k];
-                        behind[owed[k]] += amount[k];
-                    }
+                    part |= week[k] <= w ? 1 << k : 0;
                 }
-                for (int broker = 0; broker < brokers.many; broker++) {
-                    if (behind[broker] < 0) {
-                        return false;
-                    }
+                if (!fits[w << DEBTS | part]) {
+                    return false;
                 }
             }
             return true;
@@ -2159,7 +2178,9 @@ public final class NoonWords {
         void renew(int tray, int ofSort, int many) {
             sort[tray] = ofSort;
             size[tray] = many;
-            Arrays.fill(cells, tray * MAX_TRAY, (tray + 1) * MAX_TRAY, 0L);
+            for (int place = 0; place < many; place++) {
+                cells[tray * MAX_TRAY + place] = 0;
+            }
         }
 
         void setNumber(int tray, int place, long v) {

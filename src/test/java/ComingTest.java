@@ -154,6 +154,13 @@ public final class ComingTest {
         Check.argument("35: no such broker owes", () -> x.plan(2, debts(3, 1), 1, 4, -1));
         Check.argument("35: no such broker is owed", () -> x.plan(2, debts(0, 3), 1, 4, -1));
         Check.argument("35: no such broker at all", () -> x.plan(2, 255, 1, 4, -1));
+        NoonWords y = house(12);
+        owe(y, 0, 1, 2, 5);
+        for (int none = 12; none < 16; none++) {
+            int k = none;
+            Check.argument("35: no such broker owes", () -> y.plan(2, debts(k, 1), 1, 4, -1));
+            Check.argument("35: no such broker is owed", () -> y.plan(2, debts(0, k), 1, 4, -1));
+        }
         Check.argument("35: two alike", () -> x.plan(2, debts(0, 1, 0, 1), 2, 4, -1));
         Check.argument("35: a net below 0", () -> x.plan(2, debts(1, 0), 1, 4, -1));
         Check.argument("35: a net of 0", () -> x.plan(2, debts(0, 2), 1, 4, -1));
@@ -217,6 +224,32 @@ public final class ComingTest {
         Check.is("35: the lesser week first", 1, y.plan(0, debts(0, 1, 0, 2), 2, 4, 0));
         Check.is("35: the other later", 2, y.plan(0, debts(0, 1, 0, 2), 2, 4, 1));
         Check.is("35: by their order", 1, y.plan(0, debts(0, 2, 0, 1), 2, 4, 0));
+        NoonWords v = house(4);
+        owe(v, 0, 1, 0, 10);
+        owe(v, 0, 2, 0, 5);
+        owe(v, 0, 3, 0, 5);
+        v.put(0, 0, 10);
+        v.expect(0, 0, 14, 10, 10);
+        // 1 2 2 comes first by its weeks, but 2 1 1 has the lesser sum.
+        int[] lesser = {2, 2, 1, 1};
+        for (int what = -1; what < 3; what++) {
+            Check.is("35: the least sum ahead of the first, " + what, lesser[what + 1],
+                    v.plan(0, debts(0, 1, 0, 2, 0, 3), 3, 4, what));
+        }
+        NoonWords u = house(4);
+        owe(u, 0, 1, 0, 9);
+        owe(u, 0, 2, 0, 4);
+        owe(u, 0, 3, 0, 4);
+        u.put(0, 0, 5);
+        u.expect(0, 0, 10, 4, 4);
+        u.expect(0, 0, 20, 4, 4);
+        u.expect(0, 0, 28, 4, 4);
+        // 5, 9, 13 and 17 in all: 4 and then 9 till week 3 has sum 1 + 3 + 4; 4, 4 and then 9 has 1 + 2 + 4.
+        int[] late = {4, 4, 1, 2};
+        for (int what = -1; what < 3; what++) {
+            Check.is("35: the least latest week first, " + what, late[what + 1],
+                    u.plan(0, debts(0, 1, 0, 2, 0, 3), 3, 4, what));
+        }
         NoonWords z = house(8);
         for (int k = 1; k < 7; k++) {
             owe(z, 0, k, 0, k);

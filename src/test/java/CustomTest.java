@@ -93,6 +93,15 @@ public final class CustomTest {
         Check.fault("fee 1234567;", 1, 4);
         Check.fault("fee 0000001;", 1, 4);
         Check.fault("1234567:ban;", 1, 0);
+        NoonWords x = new NoonWords();
+        Check.type(x, "fee 1234567;");
+        Check.is("12: the text ends within a number", -12, x.text(10, 1, 0));
+        Check.is("13: its end", 10, x.fault(1));
+        Check.type(x, "fee 1234567;");
+        Check.is("12: the text ends behind a number", -11, x.text(11, 1, 0));
+        Check.type(x, "ban;bans");
+        Check.is("12: the text ends within a word", -12, x.text(7, 1, 0));
+        Check.is("13: its end", 7, x.fault(1));
         Check.fault("Fee 1;", 1, 0);
         Check.fault("fee\t1;", 1, 3);
         Check.fault("fee 1, ;", 1, 5);

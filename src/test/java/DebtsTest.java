@@ -178,6 +178,8 @@ public final class DebtsTest {
         Check.is("25: what it was", 10000, x.market(1, 2, 0));
         Check.is("25: what it was", 0, x.market(1, 2, 7));
         Check.is("25: another kind", 0, x.market(1, 3, 9));
+        Check.is("25: the first kind", 0, x.market(1, 0, 3));
+        Check.is("25: the first kind", 3, x.market(1, 0, 0));
         Check.is("25: another town", 0, x.market(0, 2, 9));
         Check.none("25: no such town", () -> x.market(3, 4, 0));
         Check.argument("25: the kind", () -> x.market(0, 4, 0));

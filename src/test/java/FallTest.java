@@ -7,8 +7,12 @@ public final class FallTest {
         rates();
         bears();
         bearsOfKin();
+        coins();
+        ofOne();
+        firstBroker();
         words();
         limits();
+        limitsOfOne();
         fell();
         wealth();
         ruin();
@@ -211,6 +215,90 @@ public final class FallTest {
         // 10 come, of which 5 are gone; 20 leave and 20 come again.
         Check.is("36: it bears its own", 0, z.falls(0));
         Check.is("36: what was gone is gone", 10000000, z.drawer(1, 0));
+    }
+
+    private static void coins() {
+        NoonWords x = house(0, 0, 0, 1, 0, 2, 0, 0);
+        Check.text(x, "rank near 1;rank near n-50 unless coin=1;bears 10;bears 50 unless not coin=0;", 1, 0);
+        owe(x, 0, 1, 1, 40);
+        owe(x, 0, 2, 1, 60);
+        x.put(0, 1, 70);
+        x.put(3, 0, 100);
+        Check.is("36: asked of coin 0", 15, x.falls(0));
+        Check.is("36: the greater rank", 60, x.drawer(2, 0));
+        Check.is("36: the rest and what is borne", 25, x.drawer(1, 0));
+    }
+
+    private static void ofOne() {
+        NoonWords x = house(0, 0, 0, 1, 0, 2);
+        Check.text(x, "rank near 5-n;", 1, 0);
+        owe(x, 0, 1, 0, 2);
+        owe(x, 0, 2, 0, 1);
+        x.put(0, 0, 1);
+        Check.is("36: a claim of 1", 2, x.falls(0));
+        Check.is("36: its rank", 1, x.drawer(2, 0));
+        NoonWords y = house(0, 0, 1, 1);
+        y.rate(0, 1, 100);
+        y.rate(1, 1, 50);
+        owe(y, 0, 1, 1, 1);
+        y.put(0, 0, 1);
+        Check.is("23: a claim in its town", 1, y.claim(0, 1));
+        Check.is("39: worth nothing in the other's", 0, y.wealth(1));
+        owe(y, 1, 0, 2, 1);
+        y.put(0, 2, 9);
+        owe(y, 0, 1, 3, 1);
+        y.rate(0, 2, 1);
+        y.rate(1, 2, 100);
+        // In town 1: 0 - 1 + 1 is 0, so it has nothing of the estate; in town 0 it has a claim of 1.
+        Check.is("23: a claim yet", 1, y.claim(0, 1));
+        owe(y, 1, 0, 0, 0);
+        Check.is("38: not above 0 it stays", 1, y.ruin(0, 0));
+        y.broker(1, 2);
+        owe(y, 1, 2, 0, 1);
+        Check.is("38: a share would have saved it", 3, y.ruin(0, 0));
+    }
+
+    private static void firstBroker() {
+        NoonWords x = house(0, 0, 0, 1, 0, 0, 0, 3);
+        Check.text(x, "bears 100;", 1, 0);
+        owe(x, 2, 0, 0, 10);
+        owe(x, 2, 3, 0, 10);
+        x.put(0, 0, 9);
+        x.put(2, 0, 10);
+        // 5 each; 0 bears 10 of its 14, and half of it comes back.
+        Check.is("36: the first one bears", 0, x.falls(2));
+        Check.is("36: the first one has its part", 9, x.drawer(0, 0));
+        Check.is("36: and the last one", 10, x.drawer(3, 0));
+        isEntry(x, 2, 0, 0, 2, 0, 0, -5, 4);
+        isEntry(x, 4, 0, 0, 2, 0, 0, -5, 5);
+    }
+
+    private static void limitsOfOne() {
+        NoonWords x = house(0, 0, 0, 1, 0, 1, 0, 0);
+        Check.text(x, "bears 50;", 1, 0);
+        owe(x, 1, 0, 0, 1);
+        owe(x, 1, 3, 0, 2);
+        x.put(1, 0, 1);
+        x.put(2, 0, 1);
+        // 1 to broker 3 and then, of 2 missing, 1 is borne and goes to broker 0.
+        for (int k = 2; k < 399; k++) {
+            owe(x, 0, 3, 0, 0);
+        }
+        Check.state("36: two entries of 1", () -> x.falls(1));
+        NoonWords y = house(0, 0, 0, 1);
+        owe(y, 1, 0, 0, 7);
+        y.put(1, 0, 7);
+        for (int k = 1; k < 400; k++) {
+            owe(y, 0, 1, 0, 0);
+        }
+        Check.state("36: an entry to the first broker", () -> y.falls(1));
+        NoonWords z = house(0, 0, 0, 1);
+        owe(z, 1, 0, 0, 1);
+        z.put(1, 0, 1);
+        for (int k = 1; k < 400; k++) {
+            owe(z, 0, 1, 0, 0);
+        }
+        Check.state("36: an entry of 1", () -> z.falls(1));
     }
 
     private static void words() {

@@ -8,6 +8,7 @@ public final class ModelTest {
     private NoonWords x;
     private Model m;
     private int calls;
+    private int kind;
     private final StringBuilder log = new StringBuilder();
     private static int wrong = 0;
     private static long compared = 0;
@@ -140,6 +141,9 @@ public final class ModelTest {
         if (what == 6 && chance(70)) {
             what = 0;
         }
+        if (kind == 2 && chance(80)) {
+            what = chance(60) ? 3 : 4;
+        }
         String says = Model.SAYS.get(what);
         s += says + " ";
         if (says.equals("void")) {
@@ -147,11 +151,12 @@ public final class ModelTest {
         } else if (says.equals("loss")) {
             s += chance(50) ? "teller" : "payer";
         } else if (says.equals("rank")) {
-            s += new String[] {"kin", "near", "far"}[random.nextInt(3)] + " " + pick(0, 3) + (chance(30) ? "-n%3" : "");
+            s += new String[] {"kin", "near", "far"}[random.nextInt(3)] + " " + pick(0, 3);
+            s += chance(30) ? "-n%3" : chance(10) ? "+coin" : "";
         } else if (says.equals("bound")) {
             s += pick(1, 9) + "00000";
         } else if (says.equals("bears") && chance(70)) {
-            s += pick(0, 110);
+            s += pick(0, 110) + (chance(10) ? "-coin*50" : "");
         } else if (!says.equals("ban")) {
             s += sum(0);
         }
@@ -226,7 +231,7 @@ public final class ModelTest {
         for (int k = chance(80) ? towns * 2 : towns / 2; k > 0; k--) {
             road();
         }
-        for (int k = chance(30) ? 12 : pick(2, 8); k > 0; k--) {
+        for (int k = chance(30) ? 12 : kind == 7 ? 3 : pick(2, 8); k > 0; k--) {
             come();
         }
     }
@@ -407,7 +412,7 @@ public final class ModelTest {
         int c = coin();
         for (int k = 0; k < m.brokers.size() && chance(70); k++) {
             int b = k;
-            int n = pick(0, 20);
+            int n = pick(0, chance(50) ? 20 : 100);
             both("put(" + b + ", " + c + ", " + n + ")", () -> x.put(b, c, n), () -> m.put(b, c, n));
         }
         int many = within(1, chance(80) ? 3 : 6);
@@ -573,7 +578,7 @@ public final class ModelTest {
     private static final int[][] WEIGHTS = {
         {2, 3, 2, 1, 6, 8, 10, 5, 6, 8, 2, 5, 4, 4, 3, 4, 4, 6, 12, 6, 4, 4},
         {1, 3, 1, 0, 2, 0, 0, 0, 0, 30, 3, 6, 10, 10, 4, 3, 8, 6, 6, 1, 2, 2},
-        {1, 3, 1, 0, 8, 4, 4, 2, 2, 25, 0, 4, 2, 1, 1, 1, 1, 25, 6, 3, 1, 2},
+        {1, 3, 1, 3, 8, 4, 4, 2, 2, 35, 0, 4, 2, 1, 1, 1, 1, 20, 6, 3, 1, 2},
         {2, 3, 2, 8, 0, 4, 0, 0, 0, 0, 0, 0, 0, 0, 0, 0, 0, 0, 0, 40, 0, 1},
         {1, 5, 1, 1, 6, 25, 30, 15, 15, 0, 0, 3, 1, 0, 3, 8, 0, 2, 15, 2, 1, 2},
         {3, 10, 20, 1, 5, 3, 3, 1, 1, 8, 3, 3, 1, 0, 1, 1, 1, 8, 15, 3, 1, 1},
@@ -655,8 +660,8 @@ public final class ModelTest {
     private void play() {
         x = new NoonWords();
         m = new Model();
+        kind = (int) (seed % WEIGHTS.length);
         land();
-        int kind = (int) (seed % WEIGHTS.length);
         int most = kind == 6 || kind == 9 ? 700 : pick(40, 250);
         while (calls < most) {
             act(WEIGHTS[kind]);

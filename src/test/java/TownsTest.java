@@ -129,6 +129,13 @@ public final class TownsTest {
         Check.is("7: the near one", 200, x.rateAt(0, 1, 2));
         Check.is("7: of one day the least lag", 200, x.rateAt(0, 1, 3));
         Check.is("7: where it was told last", 300, x.rateAt(1, 1, 0));
+        NoonWords y = towns(3);
+        y.road(0, 1, 3);
+        y.road(0, 2, 2);
+        y.rate(2, 1, 200);
+        y.rate(1, 1, 300);
+        y.rate(1, 2, 400);
+        Check.is("7: the least lag, told ahead", 200, y.rateAt(0, 1, 3));
         x.rate(2, 1, 201);
         Check.is("7: of like ones the last told", 201, x.rateAt(0, 1, 3));
         x.go(1);
@@ -142,7 +149,10 @@ public final class TownsTest {
         Check.is("7: another coin", 100, x.rateAt(0, 2, 10));
         Check.is("7: no road", 100, x.rateAt(3, 1, 999));
         x.road(0, 1, 1);
-        Check.is("7: by roads as they are now", 300, x.rateAt(0, 1, 1) == 500 ? x.rateAt(2, 1, 3) == 500 ? 300 : -1 : -2);
+        Check.is("7: by roads as they are now", 500, x.rateAt(0, 1, 1));
+        Check.is("7: by roads as they are now", 201, x.rateAt(2, 1, 2));
+        Check.is("7: the latest day with the least lag", 400, x.rateAt(1, 1, 2));
+        Check.is("7: by roads as they are now", 500, x.rateAt(2, 1, 3));
         Check.none("7: no such town", () -> x.rateAt(4, 9, 0));
         Check.argument("7: the coin", () -> x.rateAt(0, 4, 0));
         Check.argument("7: the coin", () -> x.rateAt(0, -1, 0));

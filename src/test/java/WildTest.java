@@ -66,20 +66,23 @@ public final class WildTest {
     }
 
     private static void furnish(NoonWords x, Random random) {
-        for (int k = 0; k < 4; k++) {
+        boolean full = random.nextBoolean();
+        for (int k = 0; k < (full ? 8 : 4); k++) {
             x.town();
         }
         x.road(0, 1, 2);
         x.road(1, 2, 3);
-        for (int k = 0; k < 7; k++) {
-            x.broker(k % 4, k % 3);
+        int brokers = full ? 12 : 7;
+        for (int k = 0; k < brokers; k++) {
+            x.broker(full ? k % 8 : k % 4, k % 3);
             x.put(k, k % 4, 500);
             x.put(k, 0, 50);
         }
         Check.text(x, "fee n/10;bears 50;rank near 3;", 255, 0);
         for (int k = 0; k < (random.nextBoolean() ? 60 : 385); k++) {
-            int a = random.nextInt(7);
-            x.goods(a, (a + 1 + random.nextInt(6)) % 7, random.nextInt(4), 0, 1, random.nextInt(100));
+            int a = random.nextInt(brokers);
+            int b = (a + 1 + random.nextInt(brokers - 1)) % brokers;
+            x.goods(a, b, random.nextInt(4), 0, 1, random.nextInt(100));
         }
         for (int k = 0; k < 20; k++) {
             int a = random.nextInt(3);
@@ -97,7 +100,7 @@ public final class WildTest {
         Object[] given = new Object[types.length];
         for (int k = 0; k < types.length; k++) {
             int how = random.nextInt(10);
-            long v = how == 0 ? random.nextLong() : how < 5 ? WILD[random.nextInt(WILD.length)] : random.nextInt(7);
+            long v = how == 0 ? random.nextLong() : how < 5 ? WILD[random.nextInt(WILD.length)] : random.nextInt(how < 8 ? 7 : 12);
             given[k] = types[k] == long.class ? (Object) v : types[k] == boolean.class ? (Object) (v > 2) : (Object) (int) v;
         }
         return given;
