@@ -6,6 +6,7 @@ public final class CustomTest {
         tokens();
         grammar();
         manyLines();
+        longest();
         numbers();
         nests();
         lines();
@@ -179,6 +180,32 @@ public final class CustomTest {
         Check.fault(times("ban;", 24) + "?", 1, 96);
         Check.fault(times("ban;", 23) + "bans", 2, 92);
         right(times("ban;", 24) + " \n", 24);
+    }
+
+    private static void longest() {
+        Check.fault(times(";", 400), 2, 0);
+        Check.fault(times("ban;", 100), 3, 96);
+        Check.fault("fee 1" + times("+1", 197) + " ", 2, 400);
+        String most = "fee 1" + times("+1", 197) + ";";
+        right(most, 1);
+        NoonWords x = new NoonWords();
+        x.town();
+        x.broker(0, 0);
+        for (int k = 0; k < 6; k++) {
+            Check.is("12: 400 bytes", 1, Check.text(x, k == 5 ? "fee n" + times("+1", 197) + ";" : most, 1, k));
+            Check.is("15: 400 bytes", 198, x.said(0, 0, 1, 0, 0));
+        }
+        x.go(5);
+        Check.is("15: the last of six", 200, x.said(0, 0, 3, 0, 0));
+        NoonWords y = new NoonWords();
+        y.town();
+        y.broker(0, 0);
+        for (int k = 0; k < 6; k++) {
+            Check.is("12: a fault with many lines", -12, Check.text(y, times("7:fee 9;", 24) + ";", 1, 0));
+            Check.is("12: 24 lines", 24, Check.text(y, times((k + 1) + ":fee " + k + ";", 24), 1, 0));
+        }
+        Check.is("14: 144 lines", 144, y.lines(0, 0, 0));
+        Check.is("15: the last of 144", 5, y.said(0, 0, 0, 0, 0));
     }
 
     private static void numbers() {

@@ -465,6 +465,10 @@ public final class FallTest {
         Check.is("40: by number in one town", 4, x.run(0, 0, 1));
         x.put(0, 0, -10);
         Check.is("40: the first", 2, x.run(0, 100, 1));
+        NoonWords y = house(0, 0, 0, 1);
+        owe(y, 0, 1, 0, 1);
+        Check.is("40: a claim of 1", 2, y.run(0, 0, 0));
+        Check.is("40: a claim of 1", 1, y.run(0, 0, 1));
         x.falls(2);
         Check.is("40: not one that has fallen", 2 | 16, x.run(0, 100, 0));
         Check.is("40: none", 0, x.run(1, 100, 0));

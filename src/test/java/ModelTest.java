@@ -586,6 +586,7 @@ public final class ModelTest {
         {1, 3, 1, 0, 0, 0, 0, 0, 0, 20, 0, 5, 0, 0, 10, 10, 30, 0, 0, 0, 0, 0},
         {1, 3, 0, 0, 3, 1, 1, 0, 0, 5, 0, 2, 0, 0, 0, 0, 0, 0, 0, 0, 40, 1},
         {0, 1, 0, 0, 2, 6, 10, 2, 3, 60, 1, 10, 6, 1, 0, 0, 1, 9, 2, 0, 0, 2},
+        {1, 2, 1, 1, 2, 3, 10, 4, 4, 3, 1, 4, 4, 4, 2, 6, 6, 6, 12, 6, 4, 4},
     };
 
     private void act(int[] weights) {
@@ -622,6 +623,41 @@ public final class ModelTest {
             case 19: said(); break;
             case 20: trays(); break;
             default: counts();
+        }
+    }
+
+    // As much of all as there may be.
+    private void fill() {
+        while (m.towns < 8) {
+            both("town()", () -> x.town(), () -> m.town());
+        }
+        for (int k = 0; k < 8; k++) {
+            int t = k;
+            both("road(" + t + ")", () -> x.road(t, (t + 1) % 8, 9), () -> m.road(t, (t + 1) % 8, 9));
+        }
+        while (m.brokers.size() < 12) {
+            come();
+        }
+        while (m.rates.size() < 150) {
+            rates();
+            if (chance(5)) {
+                days();
+            }
+        }
+        for (int k = 0; k < 8; k++) {
+            tellText();
+        }
+        for (int k = 0; k < 600 && m.words.size() < 100; k++) {
+            tell();
+        }
+        while (m.expected.size() < 80) {
+            expect();
+        }
+        while (m.entries.size() < 390) {
+            goods();
+        }
+        for (int k = 0; k < 20; k++) {
+            put();
         }
     }
 
@@ -662,7 +698,10 @@ public final class ModelTest {
         m = new Model();
         kind = (int) (seed % WEIGHTS.length);
         land();
-        int most = kind == 6 || kind == 9 ? 700 : pick(40, 250);
+        if (kind == 10) {
+            fill();
+        }
+        int most = calls + (kind == 6 || kind == 9 ? 700 : pick(40, 250));
         while (calls < most) {
             act(WEIGHTS[kind]);
         }
