@@ -1,3 +1,4 @@
+import java.util.Arrays;
 import java.util.function.LongSupplier;
 
 /** Counts answers that are not the ones due. */
@@ -30,6 +31,13 @@ final class Check {
 
     static void place(String what, LongSupplier call) {
         fails(what, "IndexOutOfBoundsException", call);
+    }
+
+    /** Calls that are all refused, and change nothing. */
+    static void calm(String what, NoonWords x, Runnable refused) {
+        long[] before = House.seen(x);
+        refused.run();
+        is(what + ": a call that throws changes nothing", 1, Arrays.equals(before, House.seen(x)) ? 1 : 0);
     }
 
     private static void fails(String what, String want, LongSupplier call) {
