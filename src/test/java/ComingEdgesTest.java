@@ -16,6 +16,7 @@ public final class ComingEdgesTest {
         dryWordsReady();
         dryWordsStop();
         dryWordsPaid();
+        dryOf100Words();
         dryWordsOfOthers();
         dryArguments();
         planSoMany();
@@ -37,6 +38,7 @@ public final class ComingEdgesTest {
         planLeastSum();
         planLesserWeekFirst();
         planSix();
+        planOf80();
         Check.end();
     }
 
@@ -237,6 +239,18 @@ public final class ComingEdgesTest {
         Check.is("34: one of them, just 0", -1, x.dry(1, 0, false));
         x.pay(1, 7);
         Check.is("34: none", -1, x.dry(1, 0, false));
+    }
+
+    // Expected: "all of that COIN that it is told to pay by WORDS": by 100 of them
+    private static void dryOf100Words() {
+        NoonWords x = House.row(2);
+        for (int k = 0; k < 100; k++) {
+            x.tell(0, 1, 0, k == 0 ? 50 : k == 99 ? 7 : 1, 7);
+        }
+        x.put(1, 0, 50 + 98 + 6);
+        Check.is("34: one less than all", 3, x.dry(1, 0, false));
+        x.put(1, 0, 1);
+        Check.is("34: as much as all", -1, x.dry(1, 0, false));
     }
 
     // Expected: "all of that COIN that it is told to pay"
@@ -521,6 +535,20 @@ public final class ComingEdgesTest {
         y.expect(0, 0, 8, 6, 6);
         y.expect(0, 0, 15, 5, 5);
         isPlan("the first can't be in week 1", y, debts(0, 1, 0, 2, 0, 3), 3, 4, 3, 2, 1, 3);
+    }
+
+    // Expected: "LOW of all that is EXPECTED": of 80
+    private static void planOf80() {
+        NoonWords x = debtor(0, 100);
+        for (int k = 0; k < 80; k++) {
+            x.expect(0, 0, k / 4, k == 0 ? 13 : k == 79 ? 10 : 1, 50);
+        }
+        // By day 7 there are 13 and 31, by day 14 28 more, by day 21 19 and the last 10.
+        isPlan("101 of 80", x, debts(0, 1), 1, 4, 3, 3);
+        x.put(0, 0, 100 - 13 - 31);
+        isPlan("as much by week 1", x, debts(0, 1), 1, 4, 1, 1);
+        x.put(0, 0, -1);
+        isPlan("one less by week 1", x, debts(0, 1), 1, 4, 2, 2);
     }
 
     private static void planSix() {

@@ -311,6 +311,14 @@ public final class CustomEdgesTest {
             Check.fault("fee (" + word + ");", 2, 5);
             Check.fault("rank far " + word + ";", 2, 9);
         }
+        Check.fault("ban unless word 1=1;", 2, 11);
+        Check.fault("ban unless 1=word;", 2, 13);
+        Check.fault("ban unless 1=1 word 1=1;", 2, 15);
+        Check.fault("ban word 1=1;", 2, 4);
+        Check.fault("fee 1 word 1;", 2, 6);
+        Check.fault("rank word 1;", 2, 5);
+        Check.fault("loss word;", 2, 5);
+        Check.fault("word 1;", 2, 0);
         String[] bare = {"fee", "dies", "bound", "rank", "bears", "loss", "void", "rank kin", "5:", "ban unless"};
         for (String line : bare) {
             Check.fault(line + ";", 2, line.length());

@@ -8,6 +8,7 @@ public final class DebtsEdgesTest {
         owesEachOfItsOwn();
         owesArguments();
         heardOnADay();
+        heardOf400Entries();
         heardOfBothOne();
         heardByNoneOfTheTwo();
         heardArguments();
@@ -115,6 +116,16 @@ public final class DebtsEdgesTest {
         House.owe(x, 3, 0, 0, 5);
         Check.is("22: without a lag", 0, x.heard(0, 3, 0, 0, 999));
         Check.is("22: in its own town", 5, x.heard(3, 3, 0, 0, 11));
+    }
+
+    // Terms: "ENTRIES, at most 400": each of them is heard
+    private static void heardOf400Entries() {
+        NoonWords x = House.inn(2);
+        for (int k = 0; k < 400; k++) {
+            House.owe(x, 0, 1, 0, k == 0 ? 300 : k == 399 ? 5 : 1);
+        }
+        Check.is("22: all of 400", 300 + 398 + 5, x.heard(0, 0, 1, 0, 0));
+        Check.is("21: all of 400", 300 + 398 + 5, x.owes(0, 1, 0));
     }
 
     // 22: both may be one: nothing is owed then

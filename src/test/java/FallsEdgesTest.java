@@ -20,6 +20,7 @@ public final class FallsEdgesTest {
         ranksOfTheClaim();
         ranksCut();
         ranksOfAClaimOf1();
+        ranksByWhomeverFell();
         aboveAllIsGone();
         borneRoundedDown();
         borneByHowMany();
@@ -225,6 +226,13 @@ public final class FallsEdgesTest {
         Check.is("36: the other one has all", 0, x.falls(0));
         has("the other one has all", x, 0, 0, 10);
         Check.is("36: owed yet", 10, x.owes(0, 1, 0));
+        NoonWords y = House.inn(3);
+        House.owe(y, 1, 0, 0, 10);
+        House.owe(y, 1, 2, 0, 10);
+        y.put(1, 0, 10);
+        y.falls(0);
+        Check.is("36: the first one has fallen", 0, y.falls(1));
+        has("the first one has fallen", y, 0, 0, 10);
     }
 
     // Falls: "all others": the first and the last BROKER, too
@@ -308,6 +316,20 @@ public final class FallsEdgesTest {
         has("of four", x, 0, 2, 1, 1, 1);
         Check.is("36: of two", 1, x.falls(5));
         has("of two", x, 0, 2, 1, 2, 1, 0);
+        NoonWords z = House.inn(12);
+        Check.text(z, "bears 100 unless n=1;", 1, 0);
+        for (int k = 1; k < 4; k++) {
+            House.owe(z, 0, k, 0, 3);
+        }
+        House.owe(z, 7, 8, 0, 1);
+        House.owe(z, 7, 9, 0, 1);
+        z.put(6, 0, 4);
+        z.put(7, 0, 1);
+        // 4 are borne: 1.33 each; then a half each.
+        Check.is("36: of what is borne", 5, z.falls(0));
+        has("of what is borne", z, 0, 2, 1, 1, 0, 0, 0, 1);
+        Check.is("36: of two others", 1, z.falls(7));
+        has("of two others", z, 0, 2, 1, 1, 0, 0, 0, 0, 1, 0);
         NoonWords y = House.inn(12);
         Check.text(y, "bears 100;", 1, 0);
         House.owe(y, 0, 1, 0, 9);
@@ -427,6 +449,23 @@ public final class FallsEdgesTest {
         Check.text(y, "rank near 0-n;", 1, 0);
         y.falls(0);
         has("ranks below 0", y, 0, 0, 1);
+    }
+
+    // Falls: "Each has a RANK": of each that falls, not of the first alone
+    private static void ranksByWhomeverFell() {
+        for (int debtor = 0; debtor < 12; debtor++) {
+            NoonWords x = House.inn(12);
+            Check.text(x, "rank near n;rank kin n;", 1, 0);
+            for (int k = 1; k < 12; k++) {
+                House.owe(x, debtor, (debtor + k) % 12, 0, k);
+            }
+            x.put(debtor, 0, 30);
+            // 11, 10 and then 9 of 9.
+            Check.is("36: short", 36, x.falls(debtor));
+            for (int k = 1; k < 12; k++) {
+                Check.is("36: of " + debtor + " to " + k + " on", k < 9 ? 0 : k, x.drawer((debtor + k) % 12, 0));
+            }
+        }
     }
 
     // Terms: "what comes in above that is gone"
@@ -836,6 +875,22 @@ public final class FallsEdgesTest {
         // 1 owes what it hasn't, and comes down with 10, which has none of the 100; 11 has all of them.
         Check.is("38: by ranks of their own", 1 | 2 | 1 << 10, x.ruin(0, 0));
         Check.is("38: one round", 1, x.ruin(0, 1));
+        for (int down = 0; down < 11; down++) {
+            NoonWords y = House.inn(12);
+            int next = down + 1;
+            int saved = (down + 2) % 12;
+            int other = (down + 3) % 12;
+            House.owe(y, next, saved, 0, 5);
+            House.owe(y, next, down, 0, 5);
+            House.owe(y, saved, other, 0, 5);
+            y.put(next, 0, 9);
+            // The next one owes 10 and has 9: all of it is its other creditor's.
+            Check.is("38: both, and it saves the third", 3 << down, y.ruin(down, 0));
+            Check.is("38: one round", 1, y.ruin(down, 1));
+            y.put(next, 0, -5);
+            Check.is("38: too little to save it", 3 << down | 1 << saved, y.ruin(down, 0));
+            Check.is("38: two rounds", 2, y.ruin(down, 1));
+        }
     }
 
     // Falls: claims and ranks as they are when it is asked
@@ -937,6 +992,12 @@ public final class FallsEdgesTest {
                 House.owe(x, 5, k, 0, 1);
             }
         }
+        NoonWords y = House.inn(2);
+        House.owe(y, 1, 0, 0, 1);
+        Check.is("40: the first one alone", 1, y.run(1, 0, 0));
+        Check.is("40: the first one alone can't", 0, y.run(1, 0, 1));
+        y.put(1, 0, 1);
+        Check.is("40: the first one alone can", -1, y.run(1, 0, 1));
         Check.is("40: all others", 0xfff & ~32, x.run(5, 0, 0));
         Check.is("40: the first one", 0, x.run(5, 0, 1));
         x.put(5, 0, 1);
